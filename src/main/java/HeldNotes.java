@@ -14,6 +14,7 @@ public final class HeldNotes {
     private static final int SLOTS = 2;
     private static final int LOOK_AHEAD = 400;
 
+    // The settings, by their numbers.
     private static final int TRAVEL = 0;
     private static final int PATIENCE = 1;
     private static final int FULL_LETTER = 2;
@@ -23,6 +24,8 @@ public final class HeldNotes {
     private static final int[] LOWEST_VALUES = {1, 0, 4, 1};
     private static final int[] HIGHEST_VALUES = {9, 20, 99, 6};
 
+    // The kinds of action. They have numbers, since the methods, the commands of a text, those of a
+    // script and the turns of a simulation do the same actions and leave out the same ones.
     private static final int POST = 0;
     private static final int WRITE = 1;
     private static final int PLAN = 2;
@@ -31,11 +34,13 @@ public final class HeldNotes {
     private static final int TICKS = 5;
     private static final int SET = 6;
 
+    // What stands against a call: a number, since only the calls of the face throw exceptions.
     private static final int FINE = 0;
     private static final int NO_SUCH_THING = 1;
     private static final int OUT_OF_RANGE = 2;
     private static final int NOT_NOW = 3;
 
+    // Numbers of writers, and then of desks, which about() sums up.
     private static final int OUTBOX = 0;
     private static final int UNANSWERED = 1;
     private static final int LETTERS_SENT = 4;
@@ -436,6 +441,8 @@ public final class HeldNotes {
         private int sent;
         private int answered;
         private int ticksHeld;
+        // From here on it is the desk's. An answer's number is how many letters it tells; each tells
+        // more than the one ahead of it, so no more are under way than letters are unanswered.
         private final Dated answers = new Dated(MOST_UNDER_WAY);
         private int signsCame;
         private int lettersCame;
@@ -839,8 +846,9 @@ public final class HeldNotes {
 
         int firstError() {
             readHead();
-            for (int i = 0; i < MOST_CHARACTERS && readCommand(); i++) {
-                continue;
+            boolean goesOn = true;
+            for (int i = 0; goesOn && i < MOST_CHARACTERS; i++) {
+                goesOn = readCommand();
             }
             return error;
         }

@@ -4,6 +4,7 @@ public final class ActionsTest {
 
     public static void main(String[] args) {
         promise12();
+        promise12BeginsAnew();
         promise13();
         promise13FullOutbox();
         promise14();
@@ -47,6 +48,33 @@ public final class ActionsTest {
         for (int wrong : new int[] {0, 5, -1, Integer.MIN_VALUE, Integer.MAX_VALUE}) {
             CHECK.refusesAndKeeps(x, "post(" + wrong + ")", Check.ARGUMENT, () -> x.post(wrong));
         }
+    }
+
+    /** Each number of the writer is other than at first, an answer and letters are under way. */
+    private static void promise12BeginsAnew() {
+        HeldNotes x = new HeldNotes();
+        x.hold(0, false);
+        x.write(0, 45);
+        x.ticks(6);
+        x.write(0, 20);
+        x.ticks(3);
+        x.write(0, 50);
+        x.plan(20, 0, 5);
+        CHECK.answers("some are answered", 2, () -> x.writer(0, 6));
+        CHECK.answers("an answer is under way", 1, () -> x.desk(0, 5));
+        x.ticks(1);
+        CHECK.answers("post(1)", 1, () -> x.post(1));
+        CHECK.same("all is as at first", Portrait.of(x), Portrait.of(new HeldNotes()));
+        HeldNotes y = new HeldNotes();
+        y.write(0, 20);
+        y.ticks(4);
+        CHECK.answers("a letter waits at the desk", 1, () -> y.desk(0, 2));
+        y.post(1);
+        CHECK.same("all is as at first", Portrait.of(y), Portrait.of(new HeldNotes()));
+        y.write(0, 20);
+        y.ticks(3);
+        CHECK.answers("the first letter is the first", 0, () -> y.desk(0, 4));
+        CHECK.answers("and waits", 9, () -> y.desk(0, 3));
     }
 
     private static void promise13() {

@@ -171,6 +171,12 @@ public final class LookAheadTest {
         y.write(0, 3);
         y.ticks(3);
         CHECK.answers("a desk's time stays whatever its patience", 0, () -> y.best(1, 0));
+        HeldNotes v = new HeldNotes();
+        v.set(0, 1);
+        v.set(1, 1);
+        v.plan(1, 0, 12);
+        // Three letters of 4 need a tick more than two of 6, as the third is answered a tick later.
+        CHECK.answers("a value that is better by a tick", 6, () -> v.best(2, 0));
         HeldNotes z = new HeldNotes();
         z.plan(1, 0, 99);
         z.set(3, 1);

@@ -9,6 +9,7 @@ public final class ScriptsTest {
         promise24WrongInputs();
         promise25();
         promise25Turns();
+        promise25MostLetters();
         CHECK.finish("ScriptsTest");
     }
 
@@ -76,6 +77,7 @@ public final class ScriptsTest {
         one(x, 70004, false);
         one(x, 70999, true);
         one(x, 71000, true);
+        one(x, 71999, true);
         one(x, 72999, false);
         CHECK.answers("doneIn(0)", 18, () -> x.doneIn(0));
         one(x, 80018, true);
@@ -166,22 +168,57 @@ public final class ScriptsTest {
         int[] kinds = new int[8];
         for (long seed = 0; seed < 400; seed++) {
             for (int m : new int[] {1, 2, 7, 60}) {
-                HeldNotes x = some();
-                x.post(4);
-                x.write(1, 25);
-                x.write(3, 7);
-                long due = replayed(x, seed, m, kinds);
-                HeldNotes y = some();
-                y.post(4);
-                y.write(1, 25);
-                y.write(3, 7);
+                long due = replayed(fourWriters(), seed, m, kinds);
+                HeldNotes x = fourWriters();
                 long s = seed;
-                CHECK.answers("simulate(" + seed + ", " + m + ")", due, () -> y.simulate(s, m));
+                CHECK.answers("simulate(" + seed + ", " + m + ")", due, () -> x.simulate(s, m));
             }
         }
         for (int kind = 0; kind < 8; kind++) {
             CHECK.same("kind " + kind + " was among them", kinds[kind] > 0 ? 1 : 0, 1);
         }
+    }
+
+    private static HeldNotes fourWriters() {
+        HeldNotes x = new HeldNotes();
+        x.post(4);
+        x.write(1, 25);
+        x.write(3, 7);
+        x.ticks(2);
+        return x;
+    }
+
+    private static void promise25MostLetters() {
+        int many = 0;
+        int few = 0;
+        for (long seed = 0; seed < 60; seed++) {
+            long all = replayed(fullOutboxes(), seed, 60, new int[8]);
+            long sent = all / 10000;
+            many += sent > 999 ? 1 : 0;
+            few += sent <= 999 ? 1 : 0;
+            HeldNotes x = fullOutboxes();
+            long s = seed;
+            CHECK.answers("simulate(" + seed + ", 60) of full outboxes",
+                    10000 * Math.min(sent, 999) + all % 10000, () -> x.simulate(s, 60));
+        }
+        CHECK.same("some send more than 999", many > 0 ? 1 : 0, 1);
+        CHECK.same("some send less", few > 0 ? 1 : 0, 1);
+    }
+
+    /** Four writers with thousands of signs, and letters that are small and soon answered. */
+    private static HeldNotes fullOutboxes() {
+        HeldNotes x = new HeldNotes();
+        x.post(4);
+        x.set(0, 1);
+        x.set(1, 0);
+        x.set(2, 4);
+        x.set(3, 6);
+        for (int k = 0; k < 4; k++) {
+            for (int i = 0; i < 12; i++) {
+                x.write(k, 500);
+            }
+        }
+        return x;
     }
 
     private static long replayed(HeldNotes x, long seed, int m, int[] kinds) {

@@ -11,6 +11,7 @@ public final class WaysTest {
         deskThatWaitsForNothing();
         letterAheadOfTheDeskTime();
         settingsLeaveWhatIsUnderWay();
+        nothingIsSentWithoutAnAnswer();
         heldTicks();
         notesAreWrittenInTheirOrder();
         oneAnswerForTwoThatCame();
@@ -164,6 +165,17 @@ public final class WaysTest {
         CHECK.answers("a desk that waits goes on waiting", 9, () -> y.desk(0, 3));
         y.ticks(1);
         CHECK.answers("and answers at its time", 1, () -> y.desk(0, 4));
+    }
+
+    private static void nothingIsSentWithoutAnAnswer() {
+        HeldNotes x = new HeldNotes();
+        x.write(0, 99);
+        x.set(3, 6);
+        x.ticks(5);
+        CHECK.answers("the wider window is not used yet", 3, () -> x.writer(0, 4));
+        x.ticks(1);
+        CHECK.answers("but when an answer came", 4, () -> x.writer(0, 4));
+        CHECK.answers("the rest is held", 19, () -> x.writer(0, 0));
     }
 
     private static void heldTicks() {
