@@ -9,6 +9,7 @@ public final class LooksTest {
         promise8();
         promise9();
         promise10();
+        promise10OfEight();
         promise11();
         CHECK.finish("LooksTest");
     }
@@ -165,6 +166,21 @@ public final class LooksTest {
         CHECK.refuses("planned(0, -1)", Check.ARGUMENT, () -> x.planned(0, -1));
         CHECK.refuses("the note is named first", Check.BOUNDS, () -> x.planned(2, 3));
         CHECK.keeps(x, "planned", () -> x.planned(0, 0));
+    }
+
+    private static void promise10OfEight() {
+        HeldNotes x = new HeldNotes();
+        x.post(4);
+        x.plan(1, 0, 1);
+        for (int i = 0; i < 7; i++) {
+            x.plan(20 - i, i % 4, 100 + i);
+        }
+        x.ticks(1);
+        for (int i = 0; i < 7; i++) {
+            int j = i;
+            all("note " + i + " of seven", w -> x.planned(j, w), 20 - i, i % 4, 100 + i);
+        }
+        CHECK.refuses("an eighth note", Check.BOUNDS, () -> x.planned(7, 0));
     }
 
     private static void promise11() {
