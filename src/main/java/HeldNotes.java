@@ -808,7 +808,9 @@ public final class HeldNotes {
         }
 
         void remember(Post state) {
-            ring[next].copyFrom(state);
+            if (next >= 0 && next < ring.length) {
+                ring[next].copyFrom(state);
+            }
             next = (next + 1) % MOST_REMEMBERED;
             count = Math.min(count + 1, MOST_REMEMBERED);
         }
@@ -817,7 +819,9 @@ public final class HeldNotes {
             if (count > 0) {
                 next = (next + MOST_REMEMBERED - 1) % MOST_REMEMBERED;
                 count--;
-                state.copyFrom(ring[next]);
+                if (next >= 0 && next < ring.length) {
+                    state.copyFrom(ring[next]);
+                }
             }
         }
 

@@ -12,7 +12,6 @@ public final class ActionsTest {
         promise15();
         promise16();
         promise17();
-        promise17LastTime();
         promise18();
         promise19();
         promise19Forgets();
@@ -231,32 +230,6 @@ public final class ActionsTest {
         }
     }
 
-    /** More calls than are promised: the limit of the time can't be come to otherwise. */
-    private static void promise17LastTime() {
-        HeldNotes x = new HeldNotes();
-        for (int i = 0; i < 1010; i++) {
-            x.ticks(99);
-        }
-        CHECK.answers("the time", 99990, () -> x.about(1));
-        CHECK.refusesAndKeeps(x, "ticks to 100000", Check.STATE, () -> x.ticks(10));
-        CHECK.answers("ticks to 99999", 0, () -> x.ticks(9));
-        CHECK.refusesAndKeeps(x, "ticks(1) at the end", Check.STATE, () -> x.ticks(1));
-        CHECK.refuses("the argument is named first", Check.ARGUMENT, () -> x.ticks(0));
-        CHECK.refuses("the argument is named first", Check.ARGUMENT, () -> x.ticks(100));
-        CHECK.answers("a note can be planned", 1, () -> x.plan(9, 0, 5));
-        HeldNotes y = new HeldNotes();
-        y.plan(9, 0, 5);
-        CHECK.answers("doneIn has no limit", 21, () -> x.doneIn(0));
-        CHECK.answers("thereIn has no limit", 3, () -> x.thereIn(0, 5));
-        CHECK.answers("ifHeld has no limit", 1, () -> x.ifHeld(0, 2));
-        CHECK.answers("best has no limit", 0, () -> x.best(1, 0));
-        CHECK.answers("runScript has no limit", HeldNotes.NONE, () -> x.runScript(2, 2009980021L));
-        for (long seed = 0; seed < 20; seed++) {
-            long s = seed;
-            CHECK.answers("simulate has no limit", y.simulate(s, 60), () -> x.simulate(s, 60));
-        }
-    }
-
     private static void promise18() {
         int[] lowest = {1, 0, 4, 1};
         int[] highest = {9, 20, 99, 6};
@@ -286,28 +259,28 @@ public final class ActionsTest {
         HeldNotes x = new HeldNotes();
         CHECK.refusesAndKeeps(x, "undo of nothing", Check.STATE, x::undo);
         String[] portraits = new String[7];
-        portraits[0] = Portrait.of(x);
+        portraits[0] = Portrait.sketch(x);
         x.post(2);
-        portraits[1] = Portrait.of(x);
+        portraits[1] = Portrait.sketch(x);
         x.write(0, 45);
-        portraits[2] = Portrait.of(x);
+        portraits[2] = Portrait.sketch(x);
         x.plan(7, 1, 30);
-        portraits[3] = Portrait.of(x);
+        portraits[3] = Portrait.sketch(x);
         x.hold(0, false);
-        portraits[4] = Portrait.of(x);
+        portraits[4] = Portrait.sketch(x);
         x.set(0, 8);
-        portraits[5] = Portrait.of(x);
+        portraits[5] = Portrait.sketch(x);
         x.ticks(10);
-        portraits[6] = Portrait.of(x);
+        portraits[6] = Portrait.sketch(x);
         x.flush(1);
         for (int left = 6; left >= 0; left--) {
             CHECK.answers("undo", left, x::undo);
-            CHECK.same("the state of " + left, Portrait.of(x), portraits[left]);
+            CHECK.same("the state of " + left, Portrait.sketch(x), portraits[left]);
         }
         CHECK.refusesAndKeeps(x, "undo of one more", Check.STATE, x::undo);
         CHECK.answers("and an action behind it", 1, () -> x.write(0, 1));
         CHECK.answers("can be taken back", 0, x::undo);
-        CHECK.same("to the new object", Portrait.of(x), portraits[0]);
+        CHECK.same("to the new object", Portrait.sketch(x), portraits[0]);
     }
 
     private static void promise19Forgets() {

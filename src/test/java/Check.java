@@ -40,11 +40,11 @@ final class Check {
         same(what, answer(call), "throws." + exception);
     }
 
-    /** As refuses, and the object must be afterwards what it was before. */
+    /** As refuses, and the object must be afterwards what it was before; StatesEdges looks closer. */
     void refusesAndKeeps(HeldNotes x, String what, String exception, LongSupplier call) {
-        String before = Portrait.of(x);
+        String before = Portrait.sketch(x);
         refuses(what, exception, call);
-        same(what + " changes nothing", Portrait.of(x), before);
+        same(what + " changes nothing", Portrait.sketch(x), before);
     }
 
     /** The call must leave the object as it was before. */

@@ -221,7 +221,7 @@ public final class ScriptsTest {
         return x;
     }
 
-    private static long replayed(HeldNotes x, long seed, int m, int[] kinds) {
+    static long replayed(HeldNotes x, long seed, int m, int[] kinds) {
         long sent = x.about(5);
         long held = x.about(8);
         long state = seed;

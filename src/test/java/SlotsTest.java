@@ -60,21 +60,21 @@ public final class SlotsTest {
 
     private static void promise27KeepsTheSlot() {
         HeldNotes x = busy();
-        String first = Portrait.of(x);
+        String first = Portrait.sketch(x);
         x.save(0);
         x.ticks(20);
-        String second = Portrait.of(x);
+        String second = Portrait.sketch(x);
         x.save(1);
         x.ticks(20);
         CHECK.answers("restore(0)", 12, () -> x.restore(0));
-        CHECK.same("the first state", Portrait.of(x), first);
+        CHECK.same("the first state", Portrait.sketch(x), first);
         x.ticks(99);
         x.undo();
         x.post(1);
         CHECK.answers("restore(0) again", 12, () -> x.restore(0));
-        CHECK.same("the first state again", Portrait.of(x), first);
+        CHECK.same("the first state again", Portrait.sketch(x), first);
         CHECK.answers("restore(1)", 32, () -> x.restore(1));
-        CHECK.same("the second state", Portrait.of(x), second);
+        CHECK.same("the second state", Portrait.sketch(x), second);
         x.ticks(1);
         CHECK.answers("save takes the old one's place", 33, () -> x.save(0));
         x.ticks(1);
