@@ -11,7 +11,7 @@ import java.util.regex.Pattern;
 /** The sentences of the document: those that a test quotes, and those that none does. */
 final class Document {
     static final int TERMS = 0;
-    private static final Path PLACE = Path.of("..", "shared", "DOC.md");
+    static final Path PLACE = Path.of("..", "shared", "DOC.md");
     private static final Pattern SECTION = Pattern.compile("^## (Terms|Promise (\\d+):).*$", Pattern.MULTILINE);
     private static final Pattern SIGNATURE = Pattern.compile("^[a-zA-Z ]+\\([^)]*\\)[^:]*: ");
 

@@ -1,21 +1,27 @@
 import java.util.Random;
 import java.util.function.LongSupplier;
 
-/** Long runs of calls of all kinds, each of which must answer what the model of the document answers. */
+/** Runs of calls of all kinds, each of which must answer what the model of the document answers. */
 public final class ModelTest {
-    private static final int RUNS = 400;
-    private static final int CALLS = 250;
+    private static final int RUNS = 4000;
+    // What later calls of an object answer is free.
+    private static final int MOST_CALLS = 512;
+    // What is asked in all, of four writers with eight notes and six letters each, is no more than this.
+    private static final int CALLS_OF_COMPARISON = 200;
     private static final Check CHECK = new Check();
 
     private final Random random;
     private final int mood;
+    private final int pause;
     private final HeldNotes x = new HeldNotes();
     private final Model m = new Model();
     private final StringBuilder story = new StringBuilder();
+    private int made = 0;
 
     private ModelTest(long seed) {
         random = new Random(seed);
         mood = (int) (seed % 4);
+        pause = random.nextInt(5) == 0 ? 1 : 10 + random.nextInt(60);
     }
 
     public static void main(String[] args) {
@@ -26,19 +32,30 @@ public final class ModelTest {
     }
 
     private void run() {
-        for (int i = 0; i < CALLS && !CHECK.isAnyWrong(); i++) {
+        for (int i = 1; made < MOST_CALLS - CALLS_OF_COMPARISON && !CHECK.isAnyWrong(); i++) {
             doAnyCall();
-            compareAll();
+            if (i % pause == 0) {
+                compareAll();
+            }
         }
+        compareAll();
         if (CHECK.isAnyWrong()) {
             System.out.println("behind these calls: " + story);
         }
     }
 
     private void both(String call, LongSupplier real, LongSupplier due) {
-        String want = Check.answer(due);
-        CHECK.same(call, Check.answer(real), want);
-        story.append(call).append(" -> ").append(want).append("; ");
+        if (made < MOST_CALLS) {
+            compare(call, real, due);
+            story.append(call).append("; ");
+        }
+    }
+
+    private void compare(String call, LongSupplier real, LongSupplier due) {
+        if (made < MOST_CALLS) {
+            made++;
+            CHECK.same(call, Check.answer(real), Check.answer(due));
+        }
     }
 
     /** A number from lowest to highest, and now and then one that is just outside, or far. */
@@ -234,19 +251,18 @@ public final class ModelTest {
     }
 
     private void compareAll() {
-        for (int what = 0; what <= 8; what++) {
-            CHECK.same("about(" + what + ")", x.about(what), m.about(what));
+        for (int i = 0; i <= 8; i++) {
+            int what = i;
+            compare("about(" + what + ")", () -> x.about(what), () -> m.about(what));
         }
-        for (int what = 0; what <= 3; what++) {
-            CHECK.same("setting(" + what + ")", x.setting(what), m.setting(what));
+        for (int i = 0; i <= 3; i++) {
+            int what = i;
+            compare("setting(" + what + ")", () -> x.setting(what), () -> m.setting(what));
         }
-        for (int i = 0; i <= m.about(2); i++) {
-            for (int what = 0; what <= 2; what++) {
-                int j = i;
-                int w = what;
-                CHECK.same("planned(" + i + ", " + what + ")", Check.answer(() -> x.planned(j, w)),
-                        Check.answer(() -> m.planned(j, w)));
-            }
+        for (int i = 0; i < 3 * m.about(2) + 3; i++) {
+            int note = i / 3;
+            int what = i % 3;
+            compare("planned(" + note + ", " + what + ")", () -> x.planned(note, what), () -> m.planned(note, what));
         }
         for (int k = 0; k < m.about(0); k++) {
             compareWriter(k);
@@ -254,19 +270,19 @@ public final class ModelTest {
     }
 
     private void compareWriter(int k) {
-        for (int what = 0; what <= 6; what++) {
-            CHECK.same("writer(" + k + ", " + what + ")", x.writer(k, what), m.writer(k, what));
+        for (int i = 0; i <= 6; i++) {
+            int what = i;
+            compare("writer(" + k + ", " + what + ")", () -> x.writer(k, what), () -> m.writer(k, what));
         }
-        for (int what = 0; what <= 5; what++) {
-            CHECK.same("desk(" + k + ", " + what + ")", x.desk(k, what), m.desk(k, what));
+        for (int i = 0; i <= 5; i++) {
+            int what = i;
+            compare("desk(" + k + ", " + what + ")", () -> x.desk(k, what), () -> m.desk(k, what));
         }
-        for (int i = 0; i <= m.writer(k, 1); i++) {
-            for (int what = 0; what <= 1; what++) {
-                int j = i;
-                int w = what;
-                CHECK.same("letter(" + k + ", " + i + ", " + what + ")", Check.answer(() -> x.letter(k, j, w)),
-                        Check.answer(() -> m.letter(k, j, w)));
-            }
+        for (int i = 0; i < 2 * m.writer(k, 1) + 2; i++) {
+            int letter = i / 2;
+            int what = i % 2;
+            compare("letter(" + k + ", " + letter + ", " + what + ")", () -> x.letter(k, letter, what),
+                    () -> m.letter(k, letter, what));
         }
     }
 }

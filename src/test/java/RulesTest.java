@@ -5,7 +5,6 @@ import java.lang.reflect.Method;
 import java.lang.reflect.Modifier;
 import java.nio.file.Files;
 import java.nio.file.Path;
-import java.util.Arrays;
 import java.util.List;
 import java.util.Set;
 import java.util.TreeSet;
@@ -15,17 +14,11 @@ import java.util.regex.Pattern;
 /** The face of the class, and those rules of LANGUAGE.md that can be looked at from outside. */
 public final class RulesTest {
     private static final Check CHECK = new Check();
-    private static final String[] FACE = {
-        "int append(int)", "int clearText()", "int errorPosition()", "int load()", "int about(int)",
-        "int writer(int,int)", "int desk(int,int)", "int letter(int,int,int)", "int planned(int,int)",
-        "int setting(int)", "int post(int)", "int write(int,int)", "int plan(int,int,int)",
-        "int hold(int,boolean)", "int flush(int)", "int ticks(int)", "int set(int,int)", "int undo()",
-        "int doneIn(int)", "int thereIn(int,int)", "int ifHeld(int,int)", "int best(int,int)",
-        "int runScript(int,long)", "int simulate(long,int)", "int save(int)", "int restore(int)"};
 
     public static void main(String[] args) throws IOException {
-        face();
-        names();
+        Set<String> promised = promisedMethods();
+        face(promised);
+        names(promised);
         insideClasses();
         source();
         CHECK.finish("RulesTest");
@@ -35,20 +28,34 @@ public final class RulesTest {
         CHECK.same(what, got.toString(), want.toString());
     }
 
-    private static void face() {
+    /** The methods that the document's face has, as reflection writes them down, with their exceptions. */
+    private static Set<String> promisedMethods() throws IOException {
+        Set<String> methods = new TreeSet<>();
+        Matcher line = Pattern.compile("(?m)^    (public int \\w+)\\((.*)\\)( throws .*)?;$")
+                .matcher(Files.readString(Document.PLACE));
+        while (line.find()) {
+            String types = line.group(2).replaceAll("(\\w+) \\w+", "$1").replace(", ", ",");
+            String exceptions = line.group(3) == null ? "" : line.group(3).replace(", ", ",");
+            methods.add(line.group(1) + "(" + types + ")" + exceptions);
+        }
+        same("the methods of the document's face", methods.size(), 26);
+        return methods;
+    }
+
+    private static void face(Set<String> promised) {
         Set<String> found = new TreeSet<>();
         for (Method method : HeldNotes.class.getDeclaredMethods()) {
             if (!Modifier.isPrivate(method.getModifiers())) {
-                String whole = method.toGenericString().replace("HeldNotes.", "").replace("final ", "");
-                found.add(whole.replace("public ", "").replaceAll(" throws .*", ""));
+                found.add(method.toString().replace("HeldNotes.", "").replace("java.lang.", ""));
             }
         }
-        same("the methods", found, new TreeSet<>(Arrays.asList(FACE)));
+        same("the methods", found, promised);
         for (Field field : HeldNotes.class.getDeclaredFields()) {
             boolean isConstant = field.getName().equals("NONE");
             same(field + " is private", Modifier.isPrivate(field.getModifiers()), !isConstant);
             same(field + " is final", Modifier.isFinal(field.getModifiers()), true);
         }
+        same("NONE", HeldNotes.NONE, -1);
         Constructor<?>[] all = HeldNotes.class.getDeclaredConstructors();
         same("one constructor", all.length, 1);
         same("it is public", Modifier.isPublic(all[0].getModifiers()), true);
@@ -58,10 +65,10 @@ public final class RulesTest {
     }
 
     /** Rule 1: no private method bears the name of a public one; here none of a class inside does either. */
-    private static void names() {
+    private static void names(Set<String> promised) {
         Set<String> publicNames = new TreeSet<>();
-        for (String method : FACE) {
-            publicNames.add(method.substring(4, method.indexOf('(')));
+        for (String method : promised) {
+            publicNames.add(method.substring("public int ".length(), method.indexOf('(')));
         }
         for (Class<?> inside : HeldNotes.class.getDeclaredClasses()) {
             for (Method method : inside.getDeclaredMethods()) {

@@ -8,7 +8,10 @@ import java.util.Map;
 
 /** The room that an object takes, and that calls make nothing anew. */
 public final class SpaceTest {
-    private static final int CALLS = 512;
+    private static final int MOST_CALLS = 512;
+    private static final String TEXT = "N4w0500w1123h20p052030t09w3007f3";
+    private static final int CALLS_OF_ROUND = 19;
+    private static final int OBJECTS = 40;
     private static final Check CHECK = new Check();
 
     private final Map<Object, Boolean> seen = new IdentityHashMap<>();
@@ -51,38 +54,49 @@ public final class SpaceTest {
 
     private static void callsMakeNothing() {
         ThreadMXBean threads = (ThreadMXBean) ManagementFactory.getThreadMXBean();
-        HeldNotes x = new HeldNotes();
-        TextTest.type(x, "N4w0500w1123h20p052030t09w3007f3");
-        allCalls(x, 2);
+        HeldNotes[] objects = new HeldNotes[OBJECTS];
+        for (int i = 0; i < OBJECTS; i++) {
+            objects[i] = new HeldNotes();
+            TextTest.type(objects[i], TEXT);
+        }
+        useUp(objects[0]);
         threads.getCurrentThreadAllocatedBytes();
         long before = threads.getCurrentThreadAllocatedBytes();
-        allCalls(x, CALLS);
+        for (int i = 1; i < OBJECTS; i++) {
+            useUp(objects[i]);
+        }
         long made = threads.getCurrentThreadAllocatedBytes() - before;
-        System.out.println("SpaceTest: " + made + " bytes are made by " + CALLS + " calls of each method");
-        CHECK.same("calls make nothing", made < 8 * CALLS ? 1 : 0, 1);
+        System.out.println("SpaceTest: " + made + " bytes are made by all calls of " + (OBJECTS - 1) + " objects");
+        CHECK.same("calls make nothing", made < 4096 ? 1 : 0, 1);
     }
 
-    private static void allCalls(HeldNotes x, int times) {
-        for (int i = 0; i < times; i++) {
-            x.load();
-            x.save(0);
-            x.write(0, 33);
-            x.plan(20, 1, 50);
-            x.hold(1, i % 2 == 0);
-            x.flush(2);
-            x.set(1, i % 21);
-            x.ticks(99);
-            x.post(4);
-            x.undo();
-            x.write(2, 500);
-            x.doneIn(2);
-            x.thereIn(2, 500);
-            x.ifHeld(2, 3);
-            x.best(2, 2);
-            x.runScript(3, 200998099982999L);
-            x.simulate(i, 60);
-            x.errorPosition();
-            x.restore(0);
+    /** As many rounds of calls as an object is used for, behind its clearText() and the signs of the text. */
+    private static void useUp(HeldNotes x) {
+        int rounds = (MOST_CALLS - 1 - TEXT.length()) / CALLS_OF_ROUND;
+        for (int i = 0; i < rounds; i++) {
+            doRound(x, i);
         }
+    }
+
+    private static void doRound(HeldNotes x, int i) {
+        x.load();
+        x.save(0);
+        x.write(0, 33);
+        x.plan(20, 1, 50);
+        x.hold(1, i % 2 == 0);
+        x.flush(2);
+        x.set(1, i % 21);
+        x.ticks(99);
+        x.post(4);
+        x.undo();
+        x.write(2, 500);
+        x.doneIn(2);
+        x.thereIn(2, 500);
+        x.ifHeld(2, 3);
+        x.best(2, 2);
+        x.runScript(3, 200998099982999L);
+        x.simulate(i, 60);
+        x.errorPosition();
+        x.restore(0);
     }
 }
